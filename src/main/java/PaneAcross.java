@@ -79,7 +79,7 @@ public final class PaneAcross {
 
     public int wind(int place, int minute) {
         if (!street.has(place) || !isWithin(minute, 0, LAST_MINUTE_OF_WIND)) return BAD;
-        return street.windIn(place, minute, 0);
+        return street.windIn(place, minute);
     }
 
     public int feed(int letter) {
@@ -129,7 +129,7 @@ public final class PaneAcross {
         int all = walks.leastAhead(0, -1);
         if (what == 1) return all;
         // Without rests nothing is ever taken off again: the end is the most there is.
-        return all > strains.limit() ? 1 : 0;
+        return strains.isTooMuch(all) ? 1 : 0;
     }
 
     public int soonest(int minute) {
@@ -430,8 +430,10 @@ public final class PaneAcross {
             if (slot >= 0 && slot < numbers.length) numbers[slot] = v;
         }
 
+        /** As of slotOf(), for numbers that are known to be there: it is asked in every minute of every walk. */
         int number(int number, int what) {
-            return read(slotOf(number, what));
+            int slot = what < MEN ? number * NUMBERS_OF_A_PLACE + what : ONCE + what - MEN;
+            return slot >= 0 && slot < numbers.length ? numbers[slot] : 0;
         }
 
         boolean isGusty(int place, int minute) {
@@ -439,8 +441,8 @@ public final class PaneAcross {
             return every > 0 && minute % every < number(place, LASTS);
         }
 
-        int windIn(int place, int minute, int more) {
-            return isGusty(place, minute) ? number(place, GUST) + more : number(place, CALM);
+        int windIn(int place, int minute) {
+            return isGusty(place, minute) ? number(place, GUST) : number(place, CALM);
         }
     }
 
@@ -514,22 +516,18 @@ public final class PaneAcross {
             at = 0;
             fault = -1;
             newLength = 0;
-            readLines();
-            fed = 0;
-            if (fault >= 0) return fault;
-            System.arraycopy(newSteps, 0, steps, 0, MOST_STEPS);
-            System.arraycopy(newValues, 0, values, 0, MOST_STEPS);
-            length = newLength;
-            return -1;
-        }
-
-        private void readLines() {
             readLine();
             for (int n = 0; n < MOST_FED && fault < 0 && next() == ';'; n++) {
                 at++;
                 readLine();
             }
             if (fault < 0 && at < fed) fault = at;
+            fed = 0;
+            if (fault >= 0) return fault;
+            System.arraycopy(newSteps, 0, steps, 0, MOST_STEPS);
+            System.arraycopy(newValues, 0, values, 0, MOST_STEPS);
+            length = newLength;
+            return -1;
         }
 
         private void readLine() {
@@ -631,33 +629,25 @@ public final class PaneAcross {
             piled = 0;
             boolean isSkipped = false;
             for (int i = 0; i < length && i < MOST_STEPS; i++) {
-                int step = steps[i];
-                if (step == SKIP_IF_0) {
+                int step = steps[i], value = values[i];
+                if (step == NUMBER) {
+                    push(value);
+                } else if (step == NAME) {
+                    push(value >= 0 && value < names.length ? names[value] : 0);
+                } else if (step == SKIP_IF_0) {
                     isSkipped = pop() == 0;
                 } else if (step == GIVE) {
                     int v = pop();
                     if (!isSkipped) return v;
                     isSkipped = false;
                 } else {
-                    workOut(step, values[i], names);
+                    int b = pop();
+                    if (step == NEGATE) push(-b);
+                    else if (step == '!') push(b == 0 ? 1 : 0);
+                    else push(both(step, pop(), b));
                 }
             }
             return 0;
-        }
-
-        private void workOut(int step, int value, int[] names) {
-            if (step == NUMBER) {
-                push(value);
-            } else if (step == NAME) {
-                push(names != null && value >= 0 && value < names.length ? names[value] : 0);
-            } else if (step == NEGATE) {
-                push(-pop());
-            } else if (step == '!') {
-                push(pop() == 0 ? 1 : 0);
-            } else {
-                int b = pop(), a = pop();
-                push(both(step, a, b));
-            }
         }
 
         private static int both(int sign, int a, int b) {
@@ -698,7 +688,7 @@ public final class PaneAcross {
         private final int[] names = new int[6];
         // A PLACE has but two winds: what the law gives is worked out once for each and for each way to hold.
         private final int[] known = new int[MOST_PLACES * WAYS_HELD * 2];
-        private int men, scratch, more;
+        private int men, scratch, more, limit;
 
         Strains(Street street, Law law) {
             this.street = street;
@@ -709,6 +699,7 @@ public final class PaneAcross {
             this.men = men;
             this.scratch = scratch;
             this.more = more;
+            limit = street.number(0, STRENGTH) - 5 * scratch;
             Arrays.fill(known, UNKNOWN);
         }
 
@@ -716,37 +707,39 @@ public final class PaneAcross {
             suppose(street.number(0, MEN), street.number(0, SCRATCH), 0);
         }
 
-        int limit() {
-            return street.number(0, STRENGTH) - 5 * scratch;
+        boolean isTooMuch(int all) {
+            return all > limit;
+        }
+
+        int left(int all) {
+            return limit - all;
         }
 
         int inMinute(int place, int h, int minute) {
-            int gusty = street.isGusty(place, minute) ? 1 : 0;
-            int i = (place * WAYS_HELD + h) * 2 + gusty;
-            if (!isHold(h) || i < 0 || i >= known.length) return 0;
-            if (known[i] == UNKNOWN) known[i] = workedOut(place, h, street.windIn(place, minute, more));
+            boolean isGusty = street.isGusty(place, minute);
+            int i = (place * WAYS_HELD + h) * 2 + (isGusty ? 1 : 0);
+            if (h < 0 || h >= WAYS_HELD || i < 0 || i >= known.length) return 0;
+            if (known[i] == UNKNOWN) {
+                int wind = isGusty ? street.number(place, GUST) + more : street.number(place, CALM);
+                known[i] = workedOut(place, h, wind);
+            }
             return known[i];
         }
 
         private int workedOut(int place, int h, int wind) {
-            int v = law.isTold() ? byLaw(place, h, wind) : byItself(place, h, wind);
+            int kerb = street.number(place, KERB), v;
+            if (law.isTold()) {
+                names[0] = wind;
+                names[1] = h;
+                names[2] = men;
+                names[3] = kerb;
+                names[4] = scratch;
+                names[5] = place;
+                v = law.worth(names);
+            } else {
+                v = kerb + (men > 0 ? wind * h / men : 0) + (h == 0 ? wind / 4 : 0);
+            }
             return Math.max(0, Math.min(MOST_STRAIN, v));
-        }
-
-        private int byItself(int place, int h, int wind) {
-            int v = street.number(place, KERB);
-            if (men > 0) v += wind * h / men;
-            return h == 0 ? v + wind / 4 : v;
-        }
-
-        private int byLaw(int place, int h, int wind) {
-            names[0] = wind;
-            names[1] = h;
-            names[2] = men;
-            names[3] = street.number(place, KERB);
-            names[4] = scratch;
-            names[5] = place;
-            return law.worth(names);
         }
     }
 
@@ -783,7 +776,7 @@ public final class PaneAcross {
             for (int place = van; place < street.places; place++) {
                 int h = row.heldAt(place);
                 all += strains.inMinute(place, h, minute + place - van) + (h == before ? 0 : 1);
-                if (crackedAt == NOT && all > strains.limit()) crackedAt = place;
+                if (crackedAt == NOT && strains.isTooMuch(all)) crackedAt = place;
                 before = h;
             }
             greatest = all;
@@ -834,7 +827,6 @@ public final class PaneAcross {
         int greatestScratch(Shelf row, int minute) {
             for (int scratch = MOST_SCRATCH; scratch >= 0; scratch--) {
                 strains.suppose(street.number(0, MEN), scratch, 0);
-                if (strains.limit() < 0) continue;
                 follow(row, 0, minute);
                 if (crackedAt == NOT) return scratch;
             }
@@ -918,29 +910,24 @@ public final class PaneAcross {
             if (t == 0) {
                 strains.supposeNow();
                 Arrays.fill(reached, NEVER);
-                reached[0] = borne(0, 0, minute);
+                reached[0] = borne(0, strains.inMinute(0, 0, minute), 0);
                 return;
             }
             int last = Math.min(street.places, reached.length) - 1;
             for (int place = last; place >= 0; place--) {
+                int strain = strains.inMinute(place, 0, minute + t);
+                int eased = street.windIn(place, minute + t) == 0 ? EASED : 0;
                 // In the shop the walk is over: there is no rest there.
-                int rested = place == last ? NEVER : eased(reached[place], place, minute + t);
-                int paced = place == 0 ? NEVER : borne(reached[place - 1], place, minute + t);
+                int rested = place == last ? NEVER : borne(reached[place], strain, eased);
+                int paced = place == 0 ? NEVER : borne(reached[place - 1], strain, 0);
                 reached[place] = rested == NEVER || paced != NEVER && paced < rested ? paced : rested;
             }
         }
 
-        private int borne(int all, int place, int minute) {
-            if (all == NEVER) return NEVER;
-            int more = all + strains.inMinute(place, 0, minute);
-            return more > strains.limit() ? NEVER : more;
-        }
-
-        private int eased(int all, int place, int minute) {
-            if (all == NEVER) return NEVER;
-            int more = all + strains.inMinute(place, 0, minute);
-            if (street.windIn(place, minute, 0) == 0) more = Math.max(0, more - EASED);
-            return more > strains.limit() ? NEVER : more;
+        private int borne(int before, int strain, int eased) {
+            if (before == NEVER) return NEVER;
+            int all = Math.max(0, before + strain - eased);
+            return strains.isTooMuch(all) ? NEVER : all;
         }
 
         // ---- seen, drawn
@@ -978,7 +965,7 @@ public final class PaneAcross {
                 z = z * 1103515245 + 12345;
                 if ((z >>> 8) % TWELVE_MINUTES < street.number(place, PEOPLE)) return;
                 all += strains.inMinute(place, h, minute + place);
-                if (all > strains.limit()) return;
+                if (strains.isTooMuch(all)) return;
                 passedPlaces++;
             }
             cameThere++;
@@ -1107,10 +1094,10 @@ public final class PaneAcross {
         private int bear(int h, boolean isRest) {
             strains.supposeNow();
             int all = now.all + strains.inMinute(now.place, h, now.minute) + (h == now.held ? 0 : 1);
-            if (isRest && street.windIn(now.place, now.minute, 0) == 0) all = Math.max(0, all - Walks.EASED);
+            if (isRest && street.windIn(now.place, now.minute) == 0) all = Math.max(0, all - Walks.EASED);
             now.held = h;
             now.all = all;
-            if (all > strains.limit()) {
+            if (strains.isTooMuch(all)) {
                 now.isOn = false;
                 now.cracked++;
                 return 0;
@@ -1120,7 +1107,7 @@ public final class PaneAcross {
         }
 
         private void arrive() {
-            int left = strains.limit() - now.all;
+            int left = strains.left(now.all);
             now.isOn = false;
             now.arrived++;
             if (now.least == VOID || left < now.least) now.least = left;
