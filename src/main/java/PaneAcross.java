@@ -9,7 +9,7 @@ public final class PaneAcross {
 
     private static final int MOST_PLACES = 12, FLATTEST = 3, WAYS_HELD = 4, TWELVE_MINUTES = 12;
     private static final int LAST_MINUTE = 999, LAST_MINUTE_OF_WIND = 9999, MINUTES_TO_CHOOSE = 60;
-    private static final int MOST_MEN = 6, MOST_GUST = 30, MOST_SCRATCH = 99;
+    private static final int MOST_MEN = 6, MOST_GUST = 30, MOST_SCRATCH = 99, STRENGTH_OF_A_SCRATCH = 5;
 
     private static final int GUST = 0, CALM = 1, EVERY = 2, LASTS = 3, KERB = 4, PEOPLE = 5, NARROW = 6;
     private static final int MEN = 7, STRENGTH = 8, SCRATCH = 9, PANE = 10;
@@ -21,18 +21,31 @@ public final class PaneAcross {
     private static final int BYTES = 0, SHORTS = 1, INTS = 2, LONGS = 3, BOOLEANS = 4;
     private static final int HOLDS_NOTHING = -2, HOLDS_A_PACE = -1;
 
-    private final Street street = new Street();
-    private final Changes changes = new Changes();
-    private final Law rule = new Law();
-    private final Strains strains = new Strains(street, rule);
-    private final Walks walks = new Walks(street, strains);
-    private final Chances chances = new Chances(street);
-    private final Deeds deeds = new Deeds(street, strains);
-    private final Paces paces = new Paces();
-    private final Shelf[] shelves = new Shelf[SHELVES];
+    private final Street street;
+    private final Changes changes;
+    private final Law rule;
+    private final Strains strains;
+    private final Walks walks;
+    private final Chances chances;
+    private final Deeds deeds;
+    private final Paces paces;
+    private final Shelf[] shelves;
 
     public PaneAcross() {
-        for (int i = 0; i < shelves.length; i++) shelves[i] = new Shelf();
+        Street newStreet = new Street();
+        Law newRule = new Law();
+        Strains newStrains = new Strains(newStreet, newRule);
+        Shelf[] newShelves = new Shelf[SHELVES];
+        for (int i = 0; i < newShelves.length; i++) newShelves[i] = new Shelf();
+        street = newStreet;
+        changes = new Changes();
+        rule = newRule;
+        strains = newStrains;
+        walks = new Walks(newStreet, newStrains);
+        chances = new Chances(newStreet);
+        deeds = new Deeds(newStreet, newStrains);
+        paces = new Paces();
+        shelves = newShelves;
     }
 
     // ---- places, men
@@ -699,7 +712,7 @@ public final class PaneAcross {
             this.men = men;
             this.scratch = scratch;
             this.more = more;
-            limit = street.number(0, STRENGTH) - 5 * scratch;
+            limit = street.number(0, STRENGTH) - STRENGTH_OF_A_SCRATCH * scratch;
             Arrays.fill(known, UNKNOWN);
         }
 
@@ -825,7 +838,9 @@ public final class PaneAcross {
         }
 
         int greatestScratch(Shelf row, int minute) {
-            for (int scratch = MOST_SCRATCH; scratch >= 0; scratch--) {
+            // ALL STRAIN is never below 0, so a limit below 0 need not be tried.
+            int most = Math.min(MOST_SCRATCH, street.number(0, STRENGTH) / STRENGTH_OF_A_SCRATCH);
+            for (int scratch = most; scratch >= 0; scratch--) {
                 strains.suppose(street.number(0, MEN), scratch, 0);
                 follow(row, 0, minute);
                 if (crackedAt == NOT) return scratch;
