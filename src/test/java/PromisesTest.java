@@ -406,13 +406,16 @@ public final class PromisesTest {
         x.mend(0, LASTS, 0);
         due.is("till minute 58", x.soonest(0), 58);
         due.is("till minute 118", x.soonest(60), 58);
-        street(0, 0);
-        told("w?99;0");
+        // Place 1 is calm in minutes 59 and 119 alone, the shop in 39, 79, 119, 159.
+        street(0, 30, 0, 30);
         x.mend(1, EVERY, 60);
-        x.mend(1, GUST, 1);
-        x.mend(1, LASTS, 60);
-        x.mend(0, STRENGTH, 98);
-        due.is("not within 99", x.soonest(0), NOT);
+        x.mend(1, LASTS, 59);
+        x.mend(3, EVERY, 40);
+        x.mend(3, LASTS, 39);
+        x.mend(0, STRENGTH, 6);
+        due.is("in place 1 in 59, in the shop in 79", x.soonest(0), 79);
+        due.is("in place 1 in 119, in the shop in 159: 99", x.soonest(60), 99);
+        due.is("100 minutes are too many", x.soonest(59), NOT);
         street(8);
         due.is("one place alone", x.soonest(0), 0);
         x.mend(0, STRENGTH, 1);
