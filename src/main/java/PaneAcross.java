@@ -57,7 +57,8 @@ public final class PaneAcross {
 
     public int places(int shelf, int i, int n) {
         Shelf row = shelfAt(shelf);
-        if (row == null || i < 0 || n < 1 || n > MOST_PLACES) return BAD;
+        // No range is told for i: where the row has no such place it is missing, and none came.
+        if (row == null || !isWithin(n, 1, MOST_PLACES)) return BAD;
         if (row.isEmpty()) return 0;
         if (!row.holdsBytes()) return OTHER_KIND;
         int came = 0, at = i;
@@ -1258,7 +1259,7 @@ public final class PaneAcross {
             Arrays.fill(cells, 0);
         }
 
-        /** How many elements there are from place i on; below 0 behind the end. */
+        /** How many elements there are from place i on; 0 ahead of the row, below 0 behind its end. */
         int left(int i) {
             return i < 0 ? 0 : length - i;
         }

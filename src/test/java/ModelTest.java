@@ -173,7 +173,7 @@ public final class ModelTest {
         switch (name + i) {
             case "place0": return random.nextInt(32);
             case "place1": return people();
-            case "places1": return random.nextInt(3) == 0 ? random.nextInt(20) : 0;
+            case "places1": return random.nextInt(3) == 0 ? random.nextInt(24) - 4 : 0;
             case "places2": return random.nextInt(14);
             case "mend0": case "of0": case "wind0": return random.nextInt(far + 1);
             case "mend1": case "of1": return random.nextInt(12);

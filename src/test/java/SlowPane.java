@@ -65,7 +65,7 @@ final class SlowPane {
     }
 
     public int places(int shelf, int i, int n) {
-        if (!in(shelf, 0, 5) || i < 0 || !in(n, 1, 12)) return BAD;
+        if (!in(shelf, 0, 5) || !in(n, 1, 12)) return BAD;
         if (shelves[shelf] == null) return 0;
         if (!(shelves[shelf] instanceof byte[])) return -12;
         byte[] row = (byte[]) shelves[shelf];
