@@ -1,6 +1,7 @@
-/** Counts the answers that are not due, and tells them. */
+/** Counts the answers that are not due, and tells them, with the document's words that they are about. */
 final class Due {
     private final String test;
+    private String words = "";
     private int asked;
     private int wrong;
 
@@ -8,11 +9,16 @@ final class Due {
         this.test = test;
     }
 
+    /** From here on answers are about these words of the document. */
+    void about(String quoted) {
+        words = " [" + quoted + "]";
+    }
+
     void is(String call, long got, long want) {
         asked++;
         if (got == want) return;
         wrong++;
-        if (wrong <= 40) System.out.println(test + ": " + call + " answered " + got + ", due is " + want);
+        if (wrong <= 40) System.out.println(test + words + ": " + call + " answered " + got + ", due is " + want);
     }
 
     void isTrue(String what, boolean got) {
