@@ -519,9 +519,11 @@ public final class EdgesOfDeedsTest extends Edges {
         led(1, 1, 4, 1, 99, 1, 1);
         is("walks that arrived", x.image(), 1);
         x.mend(3, GUST, 30);
-        x.pace(2);
-        x.pace(2);
-        led(2, 1, 6, 1, 68, NOT, 0);
+        x.rest(2);
+        x.pace(0);
+        x.pace(0);
+        // Eased to 0 in 9; 20 / 4 and a turn in 10, 30 / 4 in 11.
+        led(2, 1, 6, 2, 99 - 13, NOT, 0);
         is("laid back", x.back(), 1);
         led(1, 1, 4, 1, 99, 1, 1);
         is("GUST stays mended", x.of(3, GUST), 30);

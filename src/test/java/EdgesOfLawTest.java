@@ -349,6 +349,13 @@ public final class EdgesOfLawTest extends Edges {
         gives("!9", 0);
         gives("!-1", 0);
         gives("!!9", 1);
+        // What is below 0 is held at 0, so the 0 itself is shown by what is added to it.
+        for (String text : new String[] {"0|0", "4&0", "0&4", "3<3", "4<3", "2=3", "4=3", "3>3", "2>3"}) {
+            gives("(" + text + ")+5", 5);
+            gives("!(" + text + ")+5", 6);
+        }
+        for (String text : new String[] {"0|3", "3|0", "4&3", "2<3", "3=3", "4>3"}) gives("(" + text + ")*5", 5);
+        gives("!9+5", 5);
     }
 
     private void allIsWorkedOut() {

@@ -335,10 +335,27 @@ public final class EdgesOfPeopleTest extends Edges {
         is("the third", x.judge(0, 0), 2);
         bytes(0, 5, 11, 16);
         is("the first of two", x.judge(0, 0), 1);
+        judgedByMinutes();
+    }
+
+    private void judgedByMinutes() {
+        windyStreet(20, 20, 20);
         x.row(0, 0, 60);
         is("sixty noughts", x.judge(0, 0), 0);
         for (int p = 0; p < 3; p++) x.mend(p, GUST, 0);
         is("three of sixty", x.judge(0, 0), 3);
+        // Gusty in minutes 0, 1, 10, 11 and so on: 3 in each, edge on.
+        street(12, 12, 12);
+        bytes(0, 3, 6, 6);
+        is("0, 1, 2", x.judge(0, 0), NOT);
+        is("1, 2, 3", x.judge(0, 10), 1);
+        is("2, 3, 4", x.judge(0, 20), 0);
+        is("9, 10, 11", x.judge(0, 90), 0);
+        is("10, 11, 12", x.judge(0, 100), NOT);
+        bytes(0, 0, 3, 6);
+        is("9, 10, 11 so", x.judge(0, 90), NOT);
+        is("8, 9, 10", x.judge(0, 80), 1);
+        is("in 9, 19, 29 ..", x.begun(0, 0), 1L << 9 | 1L << 19 | 1L << 29 | 1L << 39 | 1L << 49 | 1L << 59);
     }
 
     private void judgeAnswers() {

@@ -513,6 +513,8 @@ public final class EdgesOfWalksTest extends Edges {
         is("13 is not", x.safest(0, 2), 13);
         strength(8);
         is("never", x.safest(0, 60), NOT);
+        windyStreet(30, 0);
+        is("the walk is over in the shop: no rests there", x.safest(0, 60), 7);
         sentence("within n minutes (0 .. 60; of one PLACE alone it is there at once: its first minute's); NOT.");
         is("n -1", x.safest(0, -1), BAD);
         is("n 61", x.safest(0, 61), BAD);
