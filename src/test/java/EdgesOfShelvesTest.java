@@ -31,6 +31,8 @@ public final class EdgesOfShelvesTest extends Edges {
         test.takenAnswers();
         test.takenRefused();
         test.counts();
+        test.ownMemory();
+        test.callsOfOneObject();
         test.due.end();
     }
 
@@ -499,5 +501,52 @@ public final class EdgesOfShelvesTest extends Edges {
         is("no TRACE", x.count(4), 0);
         x.redo();
         is("DONE AGAIN", x.count(2), 10);
+    }
+
+    private void ownMemory() {
+        sentence("All memory is the class's own.");
+        windyStreet(20, 20);
+        PaneAcross other = new PaneAcross();
+        law("7");
+        x.feed('w');
+        x.body(7);
+        x.act(0, 3, 1);
+        x.row(0, 0, 2);
+        x.out(0, 0);
+        x.image();
+        x.undo();
+        x.undo();
+        is("other PLACES", other.place(9, 0), 0);
+        is("another LAW", other.strain(0, 0), 2);
+        int[] none = {1, 0, 0, 0, 0};
+        for (int what = 0; what <= 4; what++) is("none of " + what, other.count(what), none[what]);
+        is("another SHELF", other.element(0, 0), LONG_BAD);
+        is("another TRACE", other.trace(0), BAD);
+        is("another walk", other.pace(0), STATE);
+        is("another IMAGE", other.back(), STATE);
+        is("other changes", other.redo(), STATE);
+        other.mend(0, STRENGTH, 1);
+        other.body(0);
+        other.row(0, 3, 60);
+        other.act(0, 0, 1);
+        is("the first object's STRENGTH", x.of(0, STRENGTH), 99);
+        is("its BODY", x.act(0, 0, 1), 4);
+        is("its ROW", x.element(0, 2), LONG_BAD);
+        is("its changes", x.redo(), 1);
+        is("its walk", x.pace(0), 1);
+    }
+
+    private void callsOfOneObject() {
+        sentence("An object is used for at most 512 calls after it has been made");
+        street(0, 0);
+        is("the third", x.body(2), 0);
+        is("the fourth", x.keep(5, 0), 1);
+        for (int i = 0; i < 169; i++) {
+            int paces = i + 1;
+            is("out", x.out(i, 0), 1);
+            is("pace", x.pace(0), 1);
+            is("arrived", x.led(i % 2 == 0 ? 0 : 2), paces);
+        }
+        is("the 512th", x.taken(5, 2), 2);
     }
 }

@@ -662,6 +662,14 @@ public final class EdgesOfWalksTest extends Edges {
         is("two GUSTS of 13", x.windFrom(0, 0), 3);
         strength(19);
         is("0 in calm, too", x.windFrom(0, 2), 0);
+        // The STRAIN of a minute is held within 0 .. 99, without a text, too: 90 and 90, 96 and 96, 99 and 99.
+        windyStreet(30, 30);
+        x.mend(0, MEN, 1);
+        bytes(0, 3, 3);
+        strength(197);
+        is("99 and 99", x.windFrom(0, 0), 3);
+        strength(198);
+        is("99 and 99 however windy", x.windFrom(0, 0), NOT);
     }
 
     private void scratchFor() {
