@@ -380,6 +380,13 @@ public final class EdgesOfLawTest extends Edges {
         gives("0?1;0?2", 0);
         gives("0?1;0?2;0?3", 0);
         gives("0?9;h=2?8;h=2?7;6", 8);
+        street(8);
+        is("a long text", law("0?1;0?2;0?3;77"), 1);
+        is("its last line", x.strain(0, 0), 77);
+        is("a shorter one behind it", law("0?1"), 1);
+        is("none of its lines, and none of the other's", x.strain(0, 0), 0);
+        is("one that is as long as the beginning", law("0?1;0?2"), 1);
+        is("none", x.strain(0, 0), 0);
     }
 
     private void faultsPlaces() {

@@ -395,11 +395,21 @@ public final class EdgesOfWalksTest extends Edges {
         holds("PLACE 0's is the first", 321, 2);
         street(0, 0, 0, 0, 0, 0, 0, 0, 0, 0, 0, 0);
         law("3-h");
-        is("twelve digits", x.hold(0, 0), 333333333333L);
+        holds("twelve digits", 333333333333L, 0);
         law("h=!(p=0)*3?0;9");
-        is("a 0 ahead is not written", x.hold(0, 0), 33333333333L);
+        holds("a 0 ahead is not written", 33333333333L, 1);
+        law("h=p%4?0;99");
+        holds("a turn at each", 12301230123L, 11);
         law("0");
-        is("twelve noughts", x.hold(0, 0), 0);
+        holds("twelve noughts", 0, 0);
+        law("99");
+        holds("the most of all", 0, 12 * 99);
+        is("too much for any STRENGTH", x.hold(0, 2), 1);
+        law("83");
+        strength(996);
+        is("12 times 83", x.hold(0, 2), 0);
+        strength(995);
+        is("1 more than it bears", x.hold(0, 2), 1);
     }
 
     private void holdCracks() {
@@ -515,6 +525,16 @@ public final class EdgesOfWalksTest extends Edges {
         is("never", x.safest(0, 60), NOT);
         windyStreet(30, 0);
         is("the walk is over in the shop: no rests there", x.safest(0, 60), 7);
+        // To rest in a WIND of 4 strains by 1, and is no ease; the shop is gusty in minute 1.
+        street(4, 30);
+        x.mend(0, CALM, 4);
+        is("at once", x.safest(0, 1), 8);
+        is("one rest", x.safest(0, 2), 2);
+        is("more are no safer", x.safest(0, 60), 2);
+        strength(2);
+        is("soonest so", x.soonest(0), 2);
+        strength(1);
+        is("too much by any way", x.soonest(0), NOT);
         sentence("within n minutes (0 .. 60; of one PLACE alone it is there at once: its first minute's); NOT.");
         is("n -1", x.safest(0, -1), BAD);
         is("n 61", x.safest(0, 61), BAD);
